@@ -1,0 +1,74 @@
+/** What the tests of one class found: each answer that is not due is printed, and finish() ends with 1 if there was one. */
+final class Check {
+    private static int wrong = 0;
+    private static int asked = 0;
+
+    /** A call whose answer or exception is looked at; a boolean answers 1 or 0. */
+    interface Call {
+        double answer();
+    }
+
+    private Check() {
+    }
+
+    static void same(String what, double got, double due) {
+        asked++;
+        if (got != due) {
+            tell(what + " answered " + got + ", due is " + due);
+        }
+    }
+
+    static void same(String what, boolean got, boolean due) {
+        asked++;
+        if (got != due) {
+            tell(what + " answered " + got + ", due is " + due);
+        }
+    }
+
+    static void same(String what, String got, String due) {
+        asked++;
+        if (!got.equals(due)) {
+            tell(what + " answered " + got + ", due is " + due);
+        }
+    }
+
+    static void outOfBounds(String what, Call call) {
+        same(what, outcome(call), "IndexOutOfBoundsException");
+    }
+
+    static void badState(String what, Call call) {
+        same(what, outcome(call), "IllegalStateException");
+    }
+
+    static void badArgument(String what, Call call) {
+        same(what, outcome(call), "IllegalArgumentException");
+    }
+
+    /** A call's answer as a text, or the name of the very class that it threw. */
+    static String outcome(Call call) {
+        try {
+            // + 0.0: a zero of either sign is the same answer.
+            return String.valueOf(call.answer() + 0.0);
+        } catch (RuntimeException e) {
+            return e.getClass().getSimpleName();
+        }
+    }
+
+    static double number(boolean answer) {
+        return answer ? 1 : 0;
+    }
+
+    static void finish() {
+        System.out.println(asked + " answers, " + wrong + " not as due");
+        if (wrong > 0) {
+            System.exit(1);
+        }
+    }
+
+    private static void tell(String text) {
+        wrong++;
+        if (wrong <= 50) {
+            System.out.println(text);
+        }
+    }
+}
