@@ -73,6 +73,9 @@ final class BlockTest {
         Check.same("model(4) of a pin that is input and output", net.model(4), 1);
         Check.same("reduced(4, 1, 1)", net.reduced(4, 1, 1), 0);
         Check.same("reduced(2, 3, 5): 3 is an input by an arc from block 4", net.reduced(2, 3, 5), 1);
+        net.into(5, 4);
+        Check.same("reduced(2, 2, 4): 4 is an output by an arc to block 4", net.reduced(2, 2, 4), 4);
+        Check.same("reduced(2, 3, 3): 3 is both by arcs of block 4", net.reduced(2, 3, 3), 0);
     }
 
     private static void onlyArcsInside() {

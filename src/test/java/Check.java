@@ -44,14 +44,19 @@ final class Check {
         same(what, outcome(call), "IllegalArgumentException");
     }
 
-    /** A call's answer as a text, or the name of the very class that it threw. */
+    /** A call's answer as a text, or the name of the very class that it threw, and who threw it if not the program. */
     static String outcome(Call call) {
         try {
             // + 0.0: a zero of either sign is the same answer.
             return String.valueOf(call.answer() + 0.0);
         } catch (RuntimeException e) {
-            return e.getClass().getSimpleName();
+            return e.getClass().getSimpleName() + (isThrownByProgram(e) ? "" : " thrown by the machine");
         }
+    }
+
+    private static boolean isThrownByProgram(RuntimeException e) {
+        StackTraceElement[] trace = e.getStackTrace();
+        return trace.length > 0 && trace[0].getClassName().endsWith("PathLists");
     }
 
     static double number(boolean answer) {

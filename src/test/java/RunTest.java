@@ -76,8 +76,11 @@ final class RunTest {
         net.group(1, 1);
         Check.same("all groups together", Nets.listed(net, 40), from0 + ", " + from1 + ", " + from2);
         Check.same("two of each group", Nets.listed(net, 2), "6.0: 0 1 0, 6.0: 0 1 2, 6.0: 0 1 0 1, 6.0: 0 2 1");
+        net.group(1, 0);
+        net.end(1, 8);
+        Check.same("an end that came after the arcs", Nets.listed(net, 3), "6.0: 0 1 0, 6.0: 0 1 2, 6.0: 0 1 3");
         net.start(3, 3);
-        Check.same("a worse one goes before all", Nets.listed(net, 1), "5.0: 3 1, 6.0: 0 1 0");
+        Check.same("a worse one goes before all", Nets.listed(net, 1), "5.0: 3 1");
     }
 
     private static void promise7Most() {
