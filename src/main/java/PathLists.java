@@ -496,14 +496,19 @@ public final class PathLists {
         Ways ways = source.ways;
         int way = path;
         for (int i = 0; i < place; i++) {
-            Step step = ways.step[way];
-            if (step.to == sink) {
+            Step step = firstStep(ways, way);
+            if (step == null) {
                 return null;
             }
             way = ways.rest[way];
             ways = step.to.ways;
         }
-        return ways.step[way];
+        return firstStep(ways, way);
+    }
+
+    /** The first step of a way; null of the one from the sink, and when there is no such way. */
+    private static Step firstStep(Ways ways, int way) {
+        return way >= 0 && way < ways.size ? ways.step[way] : null;
     }
 
     /** Whether a pin is one of a block's inputs. Starts come from the source, which is in no block. */

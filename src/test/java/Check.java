@@ -1,4 +1,4 @@
-/** What the tests of one class found: each answer that is not due is printed, and finish() ends with 1 if there was one. */
+/** What the tests of one class found: answers that are not due are printed, and then finish() ends with exit code 1. */
 final class Check {
     private static int wrong = 0;
     private static int asked = 0;

@@ -88,7 +88,8 @@ final class ThroughTest {
         Check.same("through the last end's pin too", Nets.listed(net, 40), "-2.0: 0 0 1 1");
         net.through(1, 0);
         net.through(1, 1);
-        Check.same("through the pin between", Nets.listed(net, 40), "-2.0: 0 0 1 1, -1.0: 0 0 0, -1.0: 1 1 1, 0.0: 1 0");
+        Check.same("through the pin between", Nets.listed(net, 40),
+            "-2.0: 0 0 1 1, -1.0: 0 0 0, -1.0: 1 1 1, 0.0: 1 0");
     }
 
     private static void onlyThoseThatGoThroughCount() {
