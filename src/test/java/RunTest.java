@@ -13,6 +13,10 @@ final class RunTest {
         promise8();
         promise9();
         changes();
+        promise7LeastAndMost();
+        promise7FewerThanThat();
+        promise7CutAmongTheSame();
+        promise9Places();
         Check.finish();
     }
 
@@ -176,5 +180,90 @@ final class RunTest {
         Check.badState("slack(0) after arc", () -> net.slack(0));
         net.run(1);
         Check.same("slack(0) after run", net.slack(0), 4);
+    }
+
+    /** "k is not 1 .. 40": 41 paths of which 1, 39 and 40 are listed. */
+    private static void promise7LeastAndMost() {
+        PathLists net = Nets.pins(2);
+        for (int arc = 0; arc < 41; arc++) {
+            net.arc(0, 1, arc);
+        }
+        net.start(0, 0);
+        net.end(1, 40);
+        for (int k : new int[] {1, 2, 39, 40}) {
+            Check.same("run(" + k + ") of 41 paths", net.run(k), k);
+            Check.same("slack(0) of run(" + k + ")", net.slack(0), 0);
+            Check.same("slack(" + (k - 1) + ") of run(" + k + ")", net.slack(k - 1), k - 1);
+            Check.outOfBounds("slack(" + k + ") of run(" + k + ")", () -> net.slack(k));
+        }
+        Check.badArgument("run(0)", () -> net.run(0));
+        Check.badArgument("run(41)", () -> net.run(41));
+        Check.same("slack(39) of run(40): it is still listed", net.slack(39), 39);
+    }
+
+    /** "The k first paths of each group": some groups have more than k, some have k, fewer, or none. */
+    private static void promise7FewerThanThat() {
+        PathLists net = Nets.pins(5);
+        int[] ways = {4, 3, 2, 1};
+        for (int end = 0; end < 4; end++) {
+            for (int way = 0; way < ways[end]; way++) {
+                net.arc(4, end, way);
+            }
+            net.end(end, 10 * end);
+            net.group(end, 2 * end);
+        }
+        net.start(4, 0);
+        int[] due = {4, 7, 9, 10, 10};
+        for (int k = 1; k <= 5; k++) {
+            Check.same("run(" + k + ") of groups of 4, 3, 2 and 1 paths", net.run(k), due[k - 1]);
+        }
+        Check.same("run(40) of groups of 4, 3, 2 and 1 paths", net.run(40), 10);
+        net.run(3);
+        Check.same("slack(0) of run(3): group 0", net.slack(0), -3);
+        Check.same("slack(2) of run(3): the last of group 0", net.slack(2), -1);
+        Check.same("slack(3) of run(3): group 2", net.slack(3), 8);
+        Check.same("slack(8) of run(3): group 6", net.slack(8), 30);
+    }
+
+    /** Of paths of the same slack those are listed that stand first. */
+    private static void promise7CutAmongTheSame() {
+        PathLists net = Nets.pins(3);
+        net.end(2, 5);
+        net.end(2, 5);
+        net.start(0, 0);
+        net.start(1, 2);
+        net.arc(1, 2, 3);
+        net.arc(0, 1, 2);
+        net.arc(1, 2, 3);
+        String[] same = {"0.0: 0 1 0 0", "0.0: 0 1 0 1", "0.0: 0 1 2 0", "0.0: 0 1 2 1", "0.0: 1 0 0", "0.0: 1 0 1",
+            "0.0: 1 2 0", "0.0: 1 2 1"};
+        StringBuilder due = new StringBuilder();
+        for (int k = 1; k <= 8; k++) {
+            due.append(k == 1 ? "" : ", ").append(same[k - 1]);
+            Check.same("run(" + k + ") of eight of one slack", Nets.listed(net, k), due.toString());
+        }
+    }
+
+    /** "i = 0 its start, then its arcs, last its end .. there is no such place": the numbers tell all three apart. */
+    private static void promise9Places() {
+        PathLists net = Nets.pins(3);
+        net.arc(1, 0, 0);
+        net.arc(0, 2, 0);
+        for (int i = 0; i < 4; i++) {
+            net.start(1, -i);
+        }
+        for (int i = 0; i < 7; i++) {
+            net.end(2, 6 - i);
+        }
+        net.start(1, 9);
+        net.run(1);
+        Check.same("at(0, 0): the start", net.at(0, 0), 4);
+        Check.same("at(0, 1): the first arc", net.at(0, 1), 0);
+        Check.same("at(0, 2): the last arc", net.at(0, 2), 1);
+        Check.same("at(0, 3): the end", net.at(0, 3), 6);
+        Check.outOfBounds("at(0, 4): behind the end", () -> net.at(0, 4));
+        Check.outOfBounds("at(0, -1): before the start", () -> net.at(0, -1));
+        Check.outOfBounds("at(1, 0): behind the last path", () -> net.at(1, 0));
+        Check.outOfBounds("at(-1, 0): before the first path", () -> net.at(-1, 0));
     }
 }
