@@ -20,6 +20,7 @@ final class ThroughTest {
         twoOrdersThatFollow();
         samePinNotFollowing();
         noneOfThatOrder();
+        noneBetweenTwoOrders();
         startAndEndAtOnePin();
         pinsOfNoPath();
         arcsThatComeLater();
@@ -251,6 +252,28 @@ final class ThroughTest {
         net.through(1, 2);
         net.through(NONE, 3);
         Check.same("1 alone", Nets.listed(net, 40), "4.0: 0 0 1 0");
+    }
+
+    /**
+     * "through none of that order": what is not set, or was taken away again, stands between no two orders. So any two
+     * orders of the same pin follow one another while none is set between them.
+     */
+    private static void noneBetweenTwoOrders() {
+        for (int low = 0; low < 10; low++) {
+            for (int high = low + 1; high < 10; high++) {
+                PathLists net = row();
+                net.through(5, low);
+                net.through(5, high);
+                String pair = "5 of orders " + low + " and " + high;
+                Check.same(pair + ", none set between", net.run(40), 1);
+                for (int between = low + 1; between < high; between++) {
+                    net.through(7, between);
+                    Check.same(pair + ", 7 of order " + between, net.run(40), 0);
+                    net.through(NONE, between);
+                    Check.same(pair + ", none of order " + between + " again", net.run(40), 1);
+                }
+            }
+        }
     }
 
     /** A path without arcs has one pin: it goes through that one, of as many orders as may be, and through no other. */
